@@ -820,10 +820,9 @@ public final class LeapLane {
 
         int overFrom(Lane lane, int place) {
             int high = lane.leap[order[place]];
-            int most = Math.min(lane.spring, place);
             int over = 0;
-            for (int k = 1; k <= most && back[order[place - k]] <= high; k++) {
-                over = k;
+            while (over < lane.spring && over < place && back[order[place - over - 1]] <= high) {
+                over++;
             }
             return over;
         }
@@ -1022,23 +1021,16 @@ public final class LeapLane {
                     return a & b;
                 case DO_OR:
                     return a | b;
-                default:
-                    return compared(what, Long.compare(a, b)) ? 1 : 0;
-            }
-        }
-
-        private static boolean compared(int what, int sign) {
-            switch (what) {
                 case DO_BELOW:
-                    return sign < 0;
+                    return a < b ? 1 : 0;
                 case DO_AT_MOST:
-                    return sign <= 0;
+                    return a <= b ? 1 : 0;
                 case DO_SAME:
-                    return sign == 0;
+                    return a == b ? 1 : 0;
                 case DO_AT_LEAST:
-                    return sign >= 0;
+                    return a >= b ? 1 : 0;
                 default:
-                    return sign > 0;
+                    return a > b ? 1 : 0;
             }
         }
     }
@@ -1105,15 +1097,19 @@ public final class LeapLane {
         }
     }
 
-    /** The bytes that were fed, and the sign of them that was read last. */
+    /** The bytes that were fed, and what a reader of them came to. */
     private static final class Tape {
         final byte[] bytes = new byte[MOST_BYTES];
         int length;
+        /** Behind the sign that was read last. */
         int at;
+        /** The sign that was read last, and where its first byte is. */
         int sign;
         int place;
         /** What the NUMBER read last is; NONE, if it has more digits than it may. */
         int number;
+        /** What is wrong; 0: nothing so far. */
+        int fault;
 
         void put(int four) {
             for (int shift = 24; shift >= 0; shift -= 8) {
@@ -1123,6 +1119,7 @@ public final class LeapLane {
 
         void rewind() {
             at = 0;
+            fault = 0;
         }
 
         void readSign() {
@@ -1154,25 +1151,17 @@ public final class LeapLane {
                 at++;
             }
             sign = STRANGE_WORD;
-            for (int word = 0; word < WORDS_MANY; word++) {
-                if (isWord(word)) {
+            for (int word = 0; word < WORDS_MANY && at - place <= WORD_LETTERS; word++) {
+                // a WORD that is shorter has blanks behind it in WORDS
+                int alike = 0;
+                for (int i = 0; i < WORD_LETTERS; i++) {
+                    int letter = place + i < at ? bytes[place + i] : ' ';
+                    alike += WORDS.charAt(word * WORD_LETTERS + i) == letter ? 1 : 0;
+                }
+                if (alike == WORD_LETTERS) {
                     sign = WORD_SIGN + word;
                 }
             }
-        }
-
-        /** Whether what was read is that word: a shorter one has blanks behind it in WORDS. */
-        private boolean isWord(int word) {
-            if (at - place > WORD_LETTERS) {
-                return false;
-            }
-            for (int i = 0; i < WORD_LETTERS; i++) {
-                int letter = place + i < at ? bytes[place + i] : ' ';
-                if (WORDS.charAt(word * WORD_LETTERS + i) != letter) {
-                    return false;
-                }
-            }
-            return true;
         }
 
         private void readNumber() {
@@ -1198,8 +1187,9 @@ public final class LeapLane {
             }
         }
 
-        int faultHere(int kind) {
-            return 1 + 8 * place + kind;
+        /** A FAULT at the sign that was read last. */
+        void fail(int kind) {
+            fault = 1 + 8 * place + kind;
         }
     }
 
@@ -1209,31 +1199,29 @@ public final class LeapLane {
 
         private Tape tape;
         private Lane lane;
-        private int fault;
 
         /** Answers the FAULT, 0 without one: then the lane is as told. */
         int read(Tape text, Lane into) {
             tape = text;
             lane = into;
-            fault = 0;
             lane.told = true;
             lane.many = 0;
             tape.rewind();
             boolean goesOn = true;
             for (int clause = 0; goesOn && clause <= MOST_CLAUSES; clause++) {
                 readClause(clause);
-                goesOn = fault == 0 && readWhetherMore();
+                goesOn = tape.fault == 0 && readWhetherMore();
             }
-            return fault;
+            return tape.fault;
         }
 
         private void readClause(int clause) {
             tape.readSign();
             boolean isLane = tape.sign == WORD_SIGN + WORD_LANE;
             if (!isLane && tape.sign != WORD_SIGN + WORD_CHILD) {
-                fault = tape.faultHere(CANNOT_STAND);
+                tape.fail(CANNOT_STAND);
             } else if (clause >= MOST_CLAUSES || isLane != (clause == 0) || lane.many >= MOST_CHILDREN) {
-                fault = tape.faultHere(WRONG_CLAUSE);
+                tape.fail(WRONG_CLAUSE);
             } else if (isLane) {
                 lane.spring = readNumber(1, 6);
             } else {
@@ -1245,16 +1233,16 @@ public final class LeapLane {
         }
 
         private int readNumber(int least, int most) {
-            if (fault != 0) {
+            if (tape.fault != 0) {
                 return least;
             }
             tape.readSign();
             if (tape.sign != NUMBER_SIGN) {
-                fault = tape.faultHere(CANNOT_STAND);
+                tape.fail(CANNOT_STAND);
                 return least;
             }
             if (tape.number < least || tape.number > most) {
-                fault = tape.faultHere(WRONG_NUMBER);
+                tape.fail(WRONG_NUMBER);
                 return least;
             }
             return tape.number;
@@ -1263,7 +1251,7 @@ public final class LeapLane {
         private boolean readWhetherMore() {
             tape.readSign();
             if (tape.sign != ';' && tape.sign != END_SIGN) {
-                fault = tape.faultHere(CANNOT_STAND);
+                tape.fail(CANNOT_STAND);
             }
             return tape.sign == ';';
         }
@@ -1292,7 +1280,6 @@ public final class LeapLane {
         private static final int RIGHT_SUM = 2;
 
         private Tape tape;
-        private int fault;
         private int state;
         private int sum;
         private int clauses;
@@ -1310,48 +1297,39 @@ public final class LeapLane {
         /** Answers the FAULT, 0 without one. */
         int read(Tape text) {
             tape = text;
-            fault = 0;
-            state = CLAUSE_NEXT;
             clauses = 0;
             values = 0;
             length = 0;
             top = 0;
             depth = 0;
             open = 0;
+            state = CLAUSE_NEXT;
             tape.rewind();
-            for (int i = 0; i <= MOST_BYTES && fault == 0 && state != ENDED; i++) {
+            for (int i = 0; i <= MOST_BYTES && tape.fault == 0 && state != ENDED; i++) {
                 tape.readSign();
-                takeSign();
+                switch (state) {
+                    case CLAUSE_NEXT:
+                        takeClause();
+                        break;
+                    case VALUE_NEXT:
+                        takeValue();
+                        break;
+                    case FACT_NEXT:
+                        takeFact();
+                        break;
+                    case BEHIND_VALUE:
+                        takeBehindValue();
+                        break;
+                    default:
+                        takeBehindFact();
+                        break;
+                }
             }
-            return fault;
+            return tape.fault;
         }
 
         Rule made() {
             return new Rule(Arrays.copyOf(code, length));
-        }
-
-        private void takeSign() {
-            switch (state) {
-                case CLAUSE_NEXT:
-                    takeClause();
-                    break;
-                case VALUE_NEXT:
-                    takeValue();
-                    break;
-                case FACT_NEXT:
-                    takeFact();
-                    break;
-                case BEHIND_VALUE:
-                    takeBehindValue();
-                    break;
-                default:
-                    takeBehindFact();
-                    break;
-            }
-        }
-
-        private void fail(int kind) {
-            fault = tape.faultHere(kind);
         }
 
         private boolean isWord(int word) {
@@ -1360,9 +1338,9 @@ public final class LeapLane {
 
         private void takeClause() {
             if (!isWord(WORD_LEAP)) {
-                fail(CANNOT_STAND);
+                tape.fail(CANNOT_STAND);
             } else if (clauses >= MOST_CLAUSES) {
-                fail(WRONG_CLAUSE);
+                tape.fail(WRONG_CLAUSE);
             } else {
                 clauses++;
                 tested = false;
@@ -1375,11 +1353,11 @@ public final class LeapLane {
             boolean isNumber = tape.sign == NUMBER_SIGN;
             int word = tape.sign - WORD_SIGN;
             if (!isNumber && (word < 0 || word >= WORDS_OF_SUMS)) {
-                fail(CANNOT_STAND);
+                tape.fail(CANNOT_STAND);
             } else if (isNumber && tape.number == NONE) {
-                fail(WRONG_NUMBER);
+                tape.fail(WRONG_NUMBER);
             } else if (values >= MOST_VALUES) {
-                fail(TOO_MANY_VALUES);
+                tape.fail(TOO_MANY_VALUES);
             } else {
                 values++;
                 write(isNumber ? DO_NUMBER | tape.number << DO_BITS : DO_WORD | word << DO_BITS);
@@ -1393,7 +1371,7 @@ public final class LeapLane {
                 sum = LEFT_SUM;
                 takeValue();
             } else if (depth >= DEEPEST) {
-                fail(TOO_DEEP);
+                tape.fail(TOO_DEEP);
             } else {
                 depth++;
                 open += opens ? 1 : 0;
@@ -1422,9 +1400,9 @@ public final class LeapLane {
         private void takeComparison() {
             int what = comparisonOf(tape.sign);
             if (what == NOTHING_TO_DO) {
-                fail(CANNOT_STAND);
+                tape.fail(CANNOT_STAND);
             } else if (values >= MOST_VALUES) {
-                fail(TOO_MANY_VALUES);
+                tape.fail(TOO_MANY_VALUES);
             } else {
                 values++;
                 layBehindStronger(what);
@@ -1444,13 +1422,13 @@ public final class LeapLane {
                 takeFromPile();
                 state = BEHIND_FACT;
             } else {
-                fail(CANNOT_STAND);
+                tape.fail(CANNOT_STAND);
             }
         }
 
         private void takeEndOfClause() {
             if (tape.sign != ';' && tape.sign != END_SIGN) {
-                fail(CANNOT_STAND);
+                tape.fail(CANNOT_STAND);
                 return;
             }
             writeWaiting();
@@ -1481,14 +1459,14 @@ public final class LeapLane {
         }
 
         private void layBehindStronger(int what) {
-            while (top > 0 && STRENGTHS[pile[top - 1]] >= STRENGTHS[what]) {
+            for (int left = top; left > 0 && STRENGTHS[pile[left - 1]] >= STRENGTHS[what]; left--) {
                 write(takeFromPile());
             }
             lay(what);
         }
 
         private void writeWaiting() {
-            while (top > 0 && pile[top - 1] != DO_OPEN) {
+            for (int left = top; left > 0 && pile[left - 1] != DO_OPEN; left--) {
                 write(takeFromPile());
             }
         }
@@ -1645,8 +1623,7 @@ public final class LeapLane {
             int row = rows[at];
             int rank = leftRank;
             int mine = lesser[place];
-            int most = Math.min(spring, place);
-            for (int k = 1; k <= most; k++) {
+            for (int k = 1; k <= spring && k <= place; k++) {
                 int to = place - k;
                 int other = order[to];
                 if ((leapable[child] >> other & 1) == 0) {
