@@ -137,6 +137,22 @@ public final class GoingOnTest {
         T.due("the first", 5, y.rests(0, 1, 20, 2));
     }
 
+    /** Reckoned by stoops and turns by hand of each of the sixteen twos, not by rests. */
+    private static void restsOfFour() {
+        LeapLane x = Told.of("lane 2;child 15 5 1;child 6 15 3;child 3 2 3;child 4 8 1");
+        T.due("how many", 4, x.rests(0, 1, 4, 0));
+        T.due("the first", 5, x.rests(0, 1, 4, 1));
+        T.due("the first", 5, x.rests(0, 1, 4, 2));
+        LeapLane y = Told.of("lane 2;child 17 12 1;child 17 6 3;child 6 11 1;child 17 18 1");
+        T.due("how many", 9, y.rests(0, 1, 4, 0));
+        T.due("the first", 10, y.rests(0, 1, 4, 1));
+        T.due("the first", 5, y.rests(0, 1, 4, 2));
+        LeapLane z = Told.of("lane 2;child 14 9 3;child 9 12 3;child 11 5 3;child 6 15 2");
+        T.due("none", 0, z.rests(0, 1, 4, 0));
+        T.due("none", -2, z.rests(0, 1, 4, 1));
+        T.due("none", -2, z.rests(0, 1, 4, 2));
+    }
+
     private static void alike() {
         LeapLane x = Told.of(TWO);
         // breath 5 5, then 5 4, 4 5, 5 4 ..
@@ -190,6 +206,13 @@ public final class GoingOnTest {
         }
         T.due("the last two that are looked at", 59, y.alike(0));
         T.due("the last two that are looked at", 1, y.alike(1));
+        LeapLane z = Told.of("lane 1;child 1 1 0;child 1 1 0", "leap 1 if turn < 60");
+        z.force(0);
+        for (int i = 0; i < 7; i++) {
+            z.breath(0, 9);
+            z.breath(1, 9);
+        }
+        T.due("the first two beyond", -2, z.alike(0));
     }
 
     private static void pence() {
@@ -228,6 +251,7 @@ public final class GoingOnTest {
         given();
         givenAtMost();
         rests();
+        restsOfFour();
         alike();
         alikeLate();
         alikeNever();

@@ -105,6 +105,12 @@ public final class TextTest {
         badLane("lane x", 5, 0);
         badLane("lanes 1", 0, 0);
         badLane("lan 1", 0, 0);
+        badLane("lanez 1", 0, 0);
+        badLane("lanea 1", 0, 0);
+        badLane("lane{1", 4, 0);
+        badLane("lane`1", 4, 0);
+        badLane("lane 1:", 6, 0);
+        badLane("lane 1/", 6, 0);
         badLane("Lane 1", 0, 0);
         badLane("leap 1", 0, 0);
         badLane("breaths", 0, 0);
@@ -262,6 +268,28 @@ public final class TextTest {
         goodRule("leap 1" + " ".repeat(394));
     }
 
+    /** What was cut off behind a text is not read. */
+    private static void cutTexts() {
+        LeapLane x = new LeapLane();
+        Told.put(x, "leap 1 if 1<=2");
+        T.due("end(12)", 12, x.end(12));
+        T.due("rule cut ahead of =", Told.fault(12, 0), x.rule());
+        T.due("end(11)", 11, x.end(11));
+        T.due("rule cut ahead of <", Told.fault(11, 0), x.rule());
+        T.due("end(6)", 6, x.end(6));
+        T.due("rule cut ahead of if", 0, x.rule());
+        Told.put(x, "lane 12");
+        T.due("end(6)", 6, x.end(6));
+        T.due("lane cut ahead of a digit", 0, x.lane());
+        T.due("its spring", 1, x.count(0));
+        Told.put(x, "lanes");
+        T.due("end(4)", 4, x.end(4));
+        T.due("lane cut ahead of a letter", Told.fault(4, 0), x.lane());
+        Told.put(x, "lane  1");
+        T.due("end(5)", 5, x.end(5));
+        T.due("lane cut ahead of a blank", Told.fault(5, 0), x.lane());
+    }
+
     private static void sixRules() {
         LeapLane x = new LeapLane();
         for (int i = 0; i < 6; i++) {
@@ -358,6 +386,7 @@ public final class TextTest {
         laneReplaces();
         faultsOfRules();
         limitsOfRules();
+        cutTexts();
         sixRules();
         sums();
         tests();

@@ -1524,8 +1524,9 @@ public final class LeapLane {
         /** What was found: from where (times 64), and the leap: who (times 8), how many backs. */
         private final int[] from = new int[MOST_ORDERS];
         final int[] depth = new int[MOST_ORDERS];
-        /** Of the order that is left: who is where, and of each place how many lesser ones come behind. */
+        /** Of the order that is left: who is at a place, where a child is, how many lesser ones are behind a place. */
         private final int[] order = new int[MOST_CHILDREN];
+        private final int[] places = new int[MOST_CHILDREN];
         private final int[] lesser = new int[MOST_CHILDREN];
 
         void explore(Lane lane, Game game) {
@@ -1578,11 +1579,11 @@ public final class LeapLane {
         /** The rank of the order that is left, of all by their numbers; tells what is lesser on the way. */
         private int rank() {
             int rank = 0;
+            int gone = 0;
             for (int place = 0; place < many; place++) {
-                lesser[place] = 0;
-                for (int later = place + 1; later < many; later++) {
-                    lesser[place] += order[later] < order[place] ? 1 : 0;
-                }
+                int child = order[place];
+                lesser[place] = child - Integer.bitCount(gone & (1 << child) - 1);
+                gone |= 1 << child;
                 rank += lesser[place] * weight(place);
             }
             return rank;
@@ -1601,20 +1602,14 @@ public final class LeapLane {
 
         private void leaveFrom(int at) {
             for (int place = 0; place < many; place++) {
-                order[place] = rows[at] >> 3 * place & 7;
+                int child = rows[at] >> 3 * place & 7;
+                order[place] = child;
+                places[child] = place;
             }
             int rank = rank();
             for (int child = 0; child < many; child++) {
-                leapFrom(at, rank, placeOf(child));
+                leapFrom(at, rank, places[child]);
             }
-        }
-
-        private int placeOf(int child) {
-            int at = 0;
-            for (int place = 0; place < many; place++) {
-                at = order[place] == child ? place : at;
-            }
-            return at;
         }
 
         /** Each back that is leapt changes two places of the row and of the rank alone. */
