@@ -15,6 +15,7 @@ public final class LeapLane {
     private static final int MOST_UNDONE = 20;
     private static final int MOST_NOTES = 10;
     private static final int MOST_ORDERS = 5040;
+    private static final int GREATEST_ORDER = 7654321;
     private static final int MOST_LEAPT = 999;
     private static final int MOST_BREATH = 60;
     private static final int MOST_BACK = 20;
@@ -1590,7 +1591,7 @@ public final class LeapLane {
         }
 
         private void add(int rank, int row, int parent, int by) {
-            if (rank < 0 || rank >= MOST_ORDERS || whereOf[rank] != 0) {
+            if (found >= MOST_ORDERS || rank < 0 || rank >= MOST_ORDERS || whereOf[rank] != 0) {
                 return;
             }
             rows[found] = row;
@@ -1666,7 +1667,7 @@ public final class LeapLane {
         }
 
         int farthestOrder() {
-            int least = 7654321;
+            int least = GREATEST_ORDER;
             for (int i = 0; i < found; i++) {
                 if (depth[i] == most()) {
                     least = Math.min(least, numberOf(rows[i]));
