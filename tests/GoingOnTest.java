@@ -137,7 +137,7 @@ public final class GoingOnTest {
         T.due("the first", 5, y.rests(0, 1, 20, 2));
     }
 
-    /** Reckoned by stoops and turns by hand of each of the sixteen twos, not by rests. */
+    /** Found by a program that played each of the sixteen twos with stoop and turn of LeapLane, not with rests. */
     private static void restsOfFour() {
         LeapLane x = Told.of("lane 2;child 15 5 1;child 6 15 3;child 3 2 3;child 4 8 1");
         T.due("how many", 4, x.rests(0, 1, 4, 0));

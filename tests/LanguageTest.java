@@ -171,6 +171,7 @@ public final class LanguageTest {
         }
         long[] sizes = new long[2];
         measure(x, new IdentityHashMap<>(), sizes);
+        System.out.println("LanguageTest: " + sizes[0] + " objects, " + sizes[1] + " fields and elements in one that did all");
         T.due("objects of one that did all: " + sizes[0], 1, sizes[0] < 300 ? 1 : 0);
         T.due("fields and elements of one that did all: " + sizes[1], 1, sizes[1] < 30000 ? 1 : 0);
     }
