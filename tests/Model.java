@@ -576,12 +576,13 @@ final class Model {
             w = readLane();
         } catch (Fault f) {
             return -2 - f.number;
+        } finally {
+            tape = new byte[0];
         }
         w.force = now.force;
         w.x = now.x;
         now = w;
         past.clear();
-        tape = new byte[0];
         return w.many();
     }
 
@@ -593,8 +594,9 @@ final class Model {
             rules.add(readRule());
         } catch (Fault f) {
             return -2 - f.number;
+        } finally {
+            tape = new byte[0];
         }
-        tape = new byte[0];
         return rules.size() - 1;
     }
 

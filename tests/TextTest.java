@@ -80,7 +80,7 @@ public final class TextTest {
     private static void badLane(String text, int place, int kind) {
         LeapLane x = new LeapLane();
         T.due("lane '" + text + "'", Told.fault(place, kind), Told.lane(x, text));
-        T.due("its bytes stay", text.length(), x.count(11));
+        T.due("its bytes then", 0, x.count(11));
         T.due("no lane", -1, x.order());
     }
 
@@ -152,7 +152,7 @@ public final class TextTest {
         x.turn();
         x.note(3, 2);
         T.due("a faulty lane", Told.fault(4, 0), Told.lane(x, "lane"));
-        T.due("its tape stays", 4, x.count(11));
+        T.due("its tape is empty", 0, x.count(11));
         T.due("the lane stays", 4, x.count(1));
         T.due("TURN stays", 1, x.count(4));
         T.due("NOTES stay", 1, x.count(8));
@@ -174,7 +174,7 @@ public final class TextTest {
     private static void badRule(String text, int place, int kind) {
         LeapLane x = new LeapLane();
         T.due("rule '" + text + "'", Told.fault(place, kind), Told.rule(x, text));
-        T.due("its bytes stay", text.length(), x.count(11));
+        T.due("its bytes then", 0, x.count(11));
         T.due("no rule", 0, x.count(2));
     }
 
@@ -274,8 +274,10 @@ public final class TextTest {
         Told.put(x, "leap 1 if 1<=2");
         T.due("end(12)", 12, x.end(12));
         T.due("rule cut ahead of =", Told.fault(12, 0), x.rule());
+        Told.put(x, "leap 1 if 1<=2");
         T.due("end(11)", 11, x.end(11));
         T.due("rule cut ahead of <", Told.fault(11, 0), x.rule());
+        Told.put(x, "leap 1 if 1<=2");
         T.due("end(6)", 6, x.end(6));
         T.due("rule cut ahead of if", 0, x.rule());
         Told.put(x, "lane 12");
@@ -299,6 +301,7 @@ public final class TextTest {
         T.due("a seventh rule", -1, Told.rule(x, "leap 1"));
         T.due("its tape stays", 6, x.count(11));
         T.due("a seventh rule, faulty", -1, Told.rule(x, "leap"));
+        T.due("its tape stays, too", 4, x.count(11));
         T.due("rules", 6, x.count(2));
         T.due("force(6)", -2, x.force(6));
         T.due("force(-2)", -2, x.force(-2));

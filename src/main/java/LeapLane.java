@@ -142,6 +142,7 @@ public final class LeapLane {
 
     public int lane() {
         int fault = laneReader.read(tape, trialLane);
+        tape.length = 0;
         if (fault != 0) {
             return -2 - fault;
         }
@@ -149,7 +150,6 @@ public final class LeapLane {
         now.game.begin(now.lane);
         now.notes.many = 0;
         past.many = 0;
-        tape.length = 0;
         return now.lane.many;
     }
 
@@ -158,12 +158,12 @@ public final class LeapLane {
             return NONE;
         }
         int fault = ruleReader.read(tape);
+        tape.length = 0;
         if (fault != 0) {
             return -2 - fault;
         }
         rules[rulesMany] = ruleReader.made();
         rulesMany++;
-        tape.length = 0;
         return rulesMany - 1;
     }
 
