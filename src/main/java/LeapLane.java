@@ -988,22 +988,30 @@ public final class LeapLane {
             int top = 0;
             for (int i = 0; i < code.length; i++) {
                 int what = code[i] & DO_MASK;
-                if (what == DO_NUMBER) {
-                    pile[top++] = code[i] >> DO_BITS;
-                } else if (what == DO_WORD) {
-                    pile[top++] = words[code[i] >> DO_BITS];
-                } else if (what == DO_NOT) {
-                    pile[top - 1] ^= 1;
+                if (what == DO_NUMBER || what == DO_WORD) {
+                    if (top < pile.length) {
+                        pile[top++] = valueOf(code[i], words);
+                    }
                 } else if (what == DO_CLAUSE || (what == DO_CLAUSE_IF && pile[1] != 0)) {
                     return pile[0];
                 } else if (what == DO_CLAUSE_IF) {
                     top = 0;
-                } else {
+                } else if (what == DO_NOT && top > 0) {
+                    pile[top - 1] ^= 1;
+                } else if (top > 1) {
                     top--;
                     pile[top - 1] = worked(what, pile[top - 1], pile[top]);
                 }
             }
             return 0;
+        }
+
+        private static long valueOf(int told, long[] words) {
+            int value = told >> DO_BITS;
+            if ((told & DO_MASK) == DO_NUMBER) {
+                return value;
+            }
+            return value >= 0 && value < words.length ? words[value] : 0;
         }
 
         private static long worked(int what, long a, long b) {
@@ -1450,6 +1458,9 @@ public final class LeapLane {
         }
 
         private int takeFromPile() {
+            if (top == 0) {
+                return NOTHING_TO_DO;
+            }
             top--;
             int what = pile[top];
             if (what == DO_NOT || what == DO_OPEN) {
