@@ -1,4 +1,5 @@
 import java.nio.charset.StandardCharsets;
+import java.util.List;
 
 /** What the tests share: feeding texts, and counting answers that are not as due. */
 final class Told {
@@ -15,6 +16,20 @@ final class Told {
         if (got != want) {
             wrong++;
             System.out.println(name + ": " + call + " answered " + got + ", due is " + want);
+        }
+    }
+
+    /** What two objects tell has to be the same; the first that differs is printed. */
+    void alike(String call, List<String> want, List<String> got) {
+        asked++;
+        int at = 0;
+        while (at < want.size() && at < got.size() && want.get(at).equals(got.get(at))) {
+            at++;
+        }
+        if (at < want.size() || at < got.size()) {
+            wrong++;
+            System.out.println(name + ": " + call + " there is " + (at < got.size() ? got.get(at) : "nothing more")
+                + ", due is " + (at < want.size() ? want.get(at) : "nothing more"));
         }
     }
 
