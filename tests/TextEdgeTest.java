@@ -10,7 +10,7 @@ public final class TextEdgeTest {
     private static final Edges NEW = new Edges(T, LeapLane::new);
     /** Child 1 CAN, and nobody else. */
     private static final String TWO = "lane 1;child 5 9 3;child 8 6 2";
-    /** Of 20 digits' worth: goes round to -337012131482191585. */
+    /** Of 25 digits: goes round to -337012131482191585. */
     private static final String BELOW = "99999*99999*99999*99999*99999";
 
     private static String blanks(int many) {
