@@ -10,8 +10,9 @@ import java.util.regex.Matcher;
 import java.util.regex.Pattern;
 
 /**
- * The document from its first line to its last: each sentence and, behind it, what it asks, reckoned by hand. The
- * sentences have to be those of ../shared/DOC.md, all of them, in their order.
+ * The document from its first line to its last: each sentence and, behind it, what it asks, reckoned by hand (a
+ * few rests by a program, as said there). The sentences have to be those of ../shared/DOC.md, all of them, in their
+ * order.
  */
 public final class DocumentTest {
     private static final Told T = new Told("DocumentTest");
